@@ -112,12 +112,15 @@ public final class LineEvents {
             return NONE;
         }
         eventCount = 0;
-        for (int i = 0; i < tenths; i++) {
+        int left = tenths;
+        while (left > 0) {
             if (now >= rowsTurn) {
                 lookAtRows();
             }
             actAll();
-            passTime();
+            int step = Math.max(1, Math.min(left, quietTenths()));
+            passTime(step);
+            left -= step;
         }
         return eventCount;
     }
@@ -324,11 +327,20 @@ public final class LineEvents {
         eventCount++;
     }
 
-    private void passTime() {
+    /** For how many tenths no machine can do anything new, so that they may pass at once. */
+    private int quietTenths() {
+        int quiet = rowsTurn - now;
         for (Machine m = highest; m != null; m = m.lower) {
-            m.spend(m.causeAt(now));
+            quiet = Math.min(quiet, m.quietTenths(now));
         }
-        now++;
+        return quiet;
+    }
+
+    private void passTime(int tenths) {
+        for (Machine m = highest; m != null; m = m.lower) {
+            m.spend(m.causeAt(now), tenths);
+        }
+        now += tenths;
     }
 
     private static final class Machine {
@@ -396,10 +408,27 @@ public final class LineEvents {
             return worked < takes ? WORK : BLOCKED;
         }
 
-        void spend(int cause) {
-            times[cause]++;
+        /**
+         * A row's end is looked at for all machines at once, and one that is blocked
+         * waits for what the machine behind it does: neither sets a bound of its own.
+         */
+        int quietTenths(int instant) {
+            switch (causeAt(instant)) {
+                case WORK:
+                    return takes - worked;
+                case FAULT:
+                    return faultEnd - instant;
+                case STARVED:
+                    return before == null ? 0 : before.readyAt() - instant;
+                default:
+                    return LAST_INSTANT;
+            }
+        }
+
+        void spend(int cause, int tenths) {
+            times[cause] += tenths;
             if (cause == WORK) {
-                worked++;
+                worked += tenths;
             }
         }
 
@@ -429,9 +458,16 @@ public final class LineEvents {
             count++;
         }
 
-        /** Even without a delay a bottle must have come at an earlier instant. */
+        /**
+         * The instant from which on its first bottle may be taken, or the last one when
+         * it has none. Even without a delay a bottle must have come at an earlier instant.
+         */
+        int readyAt() {
+            return count > 0 ? came[first] + Math.max(1, delay) : LAST_INSTANT;
+        }
+
         boolean isReady(int instant) {
-            return count > 0 && instant - came[first] >= Math.max(1, delay);
+            return count > 0 && instant >= readyAt();
         }
 
         void removeFirst() {
