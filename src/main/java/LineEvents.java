@@ -35,6 +35,7 @@ public final class LineEvents {
     private static final int STARVED = 10;
     private static final int BLOCKED = 11;
 
+    private static final int BEHIND_NONE = -1;
     private static final int ALL = -1;
 
     private static final long FACTOR = 6364136223846793005L;
@@ -60,7 +61,7 @@ public final class LineEvents {
 
     public int machine(int tenths, int after) {
         Machine ahead = find(after);
-        boolean placed = after == NONE || (ahead != null && !ahead.followed);
+        boolean placed = after == BEHIND_NONE || (ahead != null && !ahead.followed);
         if (now > 0 || !within(tenths, 1, MAX_TAKES) || !placed) {
             return NONE;
         }

@@ -40,7 +40,7 @@ public final class ModelTest {
     }
 
     private int wrongAnswers() {
-        int built = 1 + chance.nextInt(40);
+        int built = 1 + chance.nextInt(number % 4 == 0 ? 250 : 40);
         int runs = 0;
         for (call = 0; call < CALLS && due.wrongCount() == 0; call++) {
             if (call < built) {

@@ -12,10 +12,12 @@ public final class PromisesTest {
         machineRefused();
         machineFull();
         bufferRoomAndDelay();
+        bufferFirstComesFirst();
         bufferRefused();
         faultRefused();
         faultRejects();
         faultStands();
+        faultOfOneTenth();
         faultGreatestTenths();
         faultDrawsInOrder();
         faultRejectionEndsDrawing();
@@ -125,6 +127,25 @@ public final class PromisesTest {
         due.is("as", 0, x.event(0, 2));
     }
 
+    /** Bottles come at instants 3, 6, 9, ..: each waits for its own delay. */
+    private static void bufferFirstComesFirst() {
+        LineEvents x = new LineEvents(0);
+        x.machine(3, -1);
+        x.machine(1, 0);
+        x.buffer(0, 1000, 100);
+        x.rest(50, 75);
+        int instant = 0;
+        for (int bottle = 0; bottle < 40; bottle++) {
+            int came = 3 + 3 * bottle + (3 + 3 * bottle < 50 ? 0 : 25);
+            x.run(came + 100 - instant);
+            due.is("none is taken before its delay: " + bottle, bottle, x.time(1, 0));
+            x.run(1);
+            event(x, 0, came + 100, 1, 0);
+            instant = came + 101;
+        }
+        due.yes("kept", x.kept());
+    }
+
     private static void bufferRefused() {
         LineEvents x = new LineEvents(0);
         due.is("buffer of none", NONE, x.buffer(0, 1, 0));
@@ -197,6 +218,16 @@ public final class PromisesTest {
         due.is("standing: time of faults", 6, x.time(0, 3));
         due.is("standing: time of work", 5, x.time(0, 0));
         due.is("standing: made", 2, x.made());
+    }
+
+    private static void faultOfOneTenth() {
+        LineEvents x = new LineEvents(0);
+        x.machine(1, -1);
+        x.fault(0, 1, 1, 1);
+        due.is("one tenth: events", 4, x.run(3));
+        event(x, 1, 1, 0, 3);
+        event(x, 2, 2, 0, 1);
+        due.is("one tenth: time", 1, x.time(0, 3));
     }
 
     private static void faultGreatestTenths() {
