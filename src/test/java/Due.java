@@ -24,6 +24,21 @@ final class Due {
         is(what, 0, got ? 1 : 0);
     }
 
+    void same(String what, String want, String got) {
+        looked++;
+        if (!got.equals(want)) {
+            wrong++;
+            System.out.println(what + " tells\n" + got + "\ndue is\n" + want);
+        }
+    }
+
+    /** Event k of the last run is this one. */
+    void event(LineEvents x, int k, int instant, int machine, int kind) {
+        is("event(" + k + ", 0)", instant, x.event(k, 0));
+        is("event(" + k + ", 1)", machine, x.event(k, 1));
+        is("event(" + k + ", 2)", kind, x.event(k, 2));
+    }
+
     void throwsIndexOutside(String what, LongSupplier call) {
         is(what, THROWN, answer(call));
     }
