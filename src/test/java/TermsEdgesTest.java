@@ -63,7 +63,7 @@ public final class TermsEdgesTest {
     private static void madeOnlyBehindTheLast() {
         LineEvents x = Lines.two(1, 1);
         x.machine(1, -1);
-        x.run(3);
+        due.is("2, 4 and 5 events", 11, x.run(3));
         due.is("two of machine 2, none of machine 0", 2, x.made());
         x.run(1);
         due.is("one of machine 1 is made too", 4, x.made());
